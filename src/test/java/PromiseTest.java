@@ -533,6 +533,9 @@ final class PromiseTest {
                 "plain 0 0 0 0;does 7 0");
         due("a row of 8", x.again(0), 8);
         due("nothing for good", x.again(1), 1);
+        x = Check.told("street 3;across 1 2;across 2 2;plain 0 0 0 0;plain 0 0 0 0;plain 0 0 0 0;plain 0 0 0 0",
+                "plain 0 0 0 0;plain 0 0 0 0;does 0 0;does 1 0;does 2 5");
+        due("5 in place of 0 and 0 is another", x.again(0), 1);
     }
 
     private static void firsts() {
