@@ -2,8 +2,14 @@
 final class Check {
     private static int checks = 0;
     private static int wrong = 0;
+    private static String sentence = "";
 
     private Check() {
+    }
+
+    /** Tells which sentence of the document the next answers are due by. */
+    static void sentence(String words) {
+        sentence = "\"" + words + "\": ";
     }
 
     static void due(String call, long got, long want) {
@@ -11,8 +17,21 @@ final class Check {
         if (got != want) {
             wrong++;
             if (wrong <= 50) {
-                System.out.println(call + " answered " + got + ", due is " + want);
+                System.out.println(sentence + call + " answered " + got + ", due is " + want);
             }
+        }
+    }
+
+    /** Where a text has its fault; behind fault(), and behind street() if it is refused, the text is as it was. */
+    static void fault(MirrorHour x, String text, int place) {
+        x.erase();
+        write(x, text);
+        due("fault() of \"" + text + "\"", x.fault(), place);
+        due("bytes behind fault()", x.count(5), text.length());
+        if (place != MirrorHour.NONE) {
+            due("street() of \"" + text + "\"", x.street(), MirrorHour.NOT);
+            due("bytes behind a street that is not", x.count(5), text.length());
+            due("fault() behind a street that is not", x.fault(), place);
         }
     }
 

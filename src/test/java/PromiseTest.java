@@ -125,14 +125,7 @@ final class PromiseTest {
     }
 
     private static void fault(MirrorHour x, String text, int place) {
-        x.erase();
-        Check.write(x, text);
-        due("fault() of \"" + text + "\"", x.fault(), place);
-        due("bytes behind fault()", x.count(5), text.length());
-        if (place != NONE) {
-            due("street() of \"" + text + "\"", x.street(), NOT);
-            due("bytes behind a street that is not", x.count(5), text.length());
-        }
+        Check.fault(x, text, place);
     }
 
     private static void faultsOfShape() {
