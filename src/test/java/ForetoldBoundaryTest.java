@@ -91,7 +91,8 @@ final class ForetoldBoundaryTest {
 
     private static void laterToday() {
         Check.sentence("what a HOUSE DOES in t DAYS: today, though it can not now");
-        MirrorHour x = Check.told("street 2;across 0 0;across 1 0;tools 0 1;tools 1 1;tooled 1 0 0 0;does 0 0;tools 0 0");
+        MirrorHour x = Check.told("street 2;across 0 0;across 1 0;tools 0 1;tools 1 1;"
+                + "tooled 1 0 0 0;does 0 0;tools 0 0");
         due("today", x.later(0, 0), 0);
         due("then not", x.later(0, 1), NONE);
         due("who mirrors it can", x.later(1, 1), 0);
@@ -129,7 +130,8 @@ final class ForetoldBoundaryTest {
         again("a row of 5 to a round of 3", x, 5, 3);
         Check.tell(x, "across 7 4");
         again("a row of 4 to a round of 4", x, 4, 4);
-        x = Check.told("street 8;across 0 1;across 1 2;across 2 0;across 3 4;across 4 5;across 5 6;across 6 7;across 7 3",
+        x = Check.told("street 8;across 0 1;across 1 2;across 2 0;across 3 4;across 4 5;across 5 6;"
+                + "across 6 7;across 7 3",
                 SIX_PLAIN + ";does 2 5;does 7 1");
         again("rounds of 3 and 5", x, 0, 15);
         x.set(0, 5);
@@ -138,7 +140,8 @@ final class ForetoldBoundaryTest {
         x = Check.told("street 8;across 0 1;across 1 2;across 2 0;across 3 4;across 4 3;across 5 6;across 6 7",
                 "plain 0 0 0 0;does 0 0;does 3 0;does 7 0");
         again("rounds of 3 and 2, and a row of 3", x, 3, 6);
-        x = Check.told("street 8;across 0 1;across 1 2;across 2 3;across 3 0;across 4 5;across 5 6;across 6 4;across 7 0",
+        x = Check.told("street 8;across 0 1;across 1 2;across 2 3;across 3 0;across 4 5;across 5 6;"
+                + "across 6 4;across 7 0",
                 "plain 0 0 0 0;does 0 0;does 4 0;does 7 0");
         again("rounds of 4 and 3, and one that looks on", x, 1, 12);
     }
@@ -162,6 +165,8 @@ final class ForetoldBoundaryTest {
         again("one is unlike", x, 0, 8);
         x = Check.told("street 8;" + SIX_PLAIN + ";does 7 0");
         again("the last house alone, today alone", x, 1, 1);
+        x = Check.told("street 3;across 1 2;across 2 2;" + SIX_PLAIN, "does 0 0;does 2 5");
+        again("the first deed by 0 today, the last one by 1 then", x, 1, 1);
         x = Check.told("street 2;across 0 0;across 1 1;tools 0 1;tooled 1 0 0 0;does 0 0;tools 0 0");
         again("what it can not do again", x, 1, 1);
     }
@@ -266,7 +271,8 @@ final class ForetoldBoundaryTest {
 
     private static void lackOnce() {
         Check.sentence("(by HOUSES that come more than once once");
-        MirrorHour x = Check.told("street 4;across 0 1;across 1 2;across 2 1;across 3 3;tooled 15 0 0 0;tools 1 1;tools 2 3",
+        MirrorHour x = Check.told("street 4;across 0 1;across 1 2;across 2 1;across 3 3;"
+                + "tooled 15 0 0 0;tools 1 1;tools 2 3",
                 "craft 12 1 0 0;either 12 1 0 0");
         int[] tooled = {4, 7, 9, 9, 9}, craft = {2, 2, 4, 4, 4}, either = {1, 2, 3, 3, 3};
         for (int t = 0; t < 5; t++) {
@@ -279,7 +285,8 @@ final class ForetoldBoundaryTest {
     }
 
     private static void lackByKinds() {
-        Check.sentence("PLAIN: none; EITHER: 1 of a HOUSE that has none of them; CRAFT: none of its OWNER; FORBIDDEN or not");
+        Check.sentence("PLAIN: none; EITHER: 1 of a HOUSE that has none of them; CRAFT: none of its "
+                + "OWNER; FORBIDDEN or not");
         for (int text = 0; text < 2; text++) {
             for (int set = 0; set < 16; set++) {
                 MirrorHour x = Check.told("street 2;plain 11 0 0 0;tooled 11 0 0 0;either 11 0 0 0;craft 11 0 0 0",
@@ -578,7 +585,8 @@ final class ForetoldBoundaryTest {
 
     private static void idleOfNothing() {
         Check.sentence("IDLE: HOUSES that DO otherwise than they would");
-        MirrorHour x = Check.told("street 8;across 0 0;across 1 0;across 2 0;across 3 0;across 4 0;across 5 0;across 6 0;"
+        MirrorHour x = Check.told("street 8;across 0 0;across 1 0;across 2 0;across 3 0;across 4 0;"
+                + "across 5 0;across 6 0;"
                 + "across 7 0", "plain 0 0 0 0;plain 0 0 0 0;does 0 0;does 7 1");
         due("itself", x.idle(0, 0, 0), 1);
         due("all that look at it", x.idle(0, 0, 1), 255);
@@ -724,8 +732,10 @@ final class ForetoldBoundaryTest {
     }
 
     private static void pairsLeast() {
-        Check.sentence("of several the PAIRS in which HOUSE 0 is with the least, then the least of those left, and so on");
-        MirrorHour x = Check.told("street 6;like 0 2 1;like 0 1 1;like 3 4 1;like 2 5 1;like 2 3 1;like 4 5 1;like 1 3 1");
+        Check.sentence("of several the PAIRS in which HOUSE 0 is with the least, then the least of "
+                + "those left, and so on");
+        MirrorHour x = Check.told("street 6;like 0 2 1;like 0 1 1;like 3 4 1;like 2 5 1;like 2 3 1;"
+                + "like 4 5 1;like 1 3 1");
         due("liking", x.pair(NONE), 3);
         int[] pairs = {1, 0, 3, 2, 5, 4};
         for (int house = 0; house < 6; house++) {
@@ -736,6 +746,11 @@ final class ForetoldBoundaryTest {
         for (int house = 0; house < 6; house++) {
             due("pair(" + house + ")", x.pair(house), then[house]);
         }
+        x = Check.told("street 6;like 0 5 9;like 1 2 5;like 1 3 4;like 3 4 1");
+        int[] left = {5, 2, 1, 4, 3, 0};
+        for (int house = 0; house < 6; house++) {
+            due("of those left: pair(" + house + ")", x.pair(house), left[house]);
+        }
     }
 
     private static void town(String what, MirrorHour x, int rounds, int longest, int gaps) {
@@ -745,11 +760,13 @@ final class ForetoldBoundaryTest {
     }
 
     private static void townRounds() {
-        Check.sentence("ROUNDS (HOUSES from which one comes back by who is ACROSS): how many, the HOUSES of the longest");
+        Check.sentence("ROUNDS (HOUSES from which one comes back by who is ACROSS): how many, the "
+                + "HOUSES of the longest");
         town("no round", new MirrorHour(), 0, 0, 3);
         town("eight of one", Check.told(ALONE), 8, 1, 0);
         town("one of eight", ring(), 1, 8, 0);
-        MirrorHour x = Check.told("street 8;across 0 1;across 1 0;across 2 3;across 3 2;across 4 5;across 5 4;across 6 7;"
+        MirrorHour x = Check.told("street 8;across 0 1;across 1 0;across 2 3;across 3 2;across 4 5;"
+                + "across 5 4;across 6 7;"
                 + "across 7 6");
         town("four of two", x, 4, 2, 0);
         Check.tell(x, "across 1 2;across 3 0;across 5 6;across 7 4");

@@ -92,7 +92,11 @@ final class LanguageTest {
             if (!method.group().contains("class ")) {
                 methods++;
                 long lines = method.group().chars().filter(sign -> sign == '\n').count() + 1;
-                due("lines of " + method.group().split("\n")[0].trim(), lines <= LONGEST_METHOD);
+                String head = method.group().split("\n")[0].trim();
+                due("lines of " + head, lines <= LONGEST_METHOD);
+                // A constructor's head has no type ahead of its name: it alone makes rows.
+                boolean isConstructor = head.matches("(public|private) \\w+\\(.*");
+                due("no new object in " + head, isConstructor || !method.group().matches("(?s).*\\bnew\\b.*"));
             }
         }
         due("methods are found", methods > FACE.size());

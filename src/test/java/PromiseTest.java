@@ -518,7 +518,8 @@ final class PromiseTest {
         for (int wrong : new int[] {-1, 2, MIN, MAX}) {
             due("again " + wrong, x.again(wrong), OUTSIDE);
         }
-        x = Check.told("street 8;across 0 1;across 1 2;across 2 0;across 3 4;across 4 5;across 5 6;across 6 7;across 7 3",
+        x = Check.told("street 8;across 0 1;across 1 2;across 2 0;across 3 4;across 4 5;across 5 6;"
+                + "across 6 7;across 7 3",
                 "plain 0 0 0 0;does 0 0;does 3 0");
         due("rounds of 3 and 5: at once", x.again(0), 0);
         due("rounds of 3 and 5: 15", x.again(1), 15);
@@ -527,7 +528,7 @@ final class PromiseTest {
         due("a row of 8", x.again(0), 8);
         due("nothing for good", x.again(1), 1);
         x = Check.told("street 3;across 1 2;across 2 2;plain 0 0 0 0;plain 0 0 0 0;plain 0 0 0 0;plain 0 0 0 0",
-                "plain 0 0 0 0;plain 0 0 0 0;does 0 0;does 1 0;does 2 5");
+                "plain 0 0 0 0;plain 0 0 0 0;does 0 0;does 2 5");
         due("5 in place of 0 and 0 is another", x.again(0), 1);
     }
 

@@ -200,7 +200,8 @@ final class SeenBoundaryTest {
 
     private static void fitsOfWhatCanNotCome() {
         Check.sentence("a DEED that it CAN");
-        MirrorHour x = Check.told("street 3;across 0 1;across 1 2;across 2 2;tools 0 1;tools 2 1;tooled 1 0 0 0;plain 0 0 0 0");
+        MirrorHour x = Check.told("street 3;across 0 1;across 1 2;across 2 2;tools 0 1;tools 2 1;"
+                + "tooled 1 0 0 0;plain 0 0 0 0");
         due("rows", x.fits(NONE), 3 * 2 * 3);
         x.seen(1, 0, 0);
         due("what it can not on day 0", x.fits(NONE), 0);

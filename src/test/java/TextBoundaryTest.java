@@ -355,7 +355,8 @@ final class TextBoundaryTest {
 
     private static void doesIfItCan() {
         Check.sentence("does: A can do D by TOOLS told in LINES ahead and before, or it does nothing then");
-        MirrorHour x = Check.told("street 3;tooled 15 0 0 0;tools 0 15;tools 1 7;does 0 0;does 1 0;does 2 0;tools 2 15");
+        MirrorHour x = Check.told("street 3;tooled 15 0 0 0;tools 0 15;tools 1 7;does 0 0;does 1 0;"
+                + "does 2 0;tools 2 15");
         due("with all tools", x.house(0, 2), 0);
         due("with all but one", x.house(1, 2), NONE);
         due("with tools told behind", x.house(2, 2), NONE);

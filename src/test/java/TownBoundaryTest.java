@@ -228,7 +228,7 @@ final class TownBoundaryTest {
 
     // ---- who can
 
-    /** Which of the sets of tools 0 .. 15 let a house do the deed: houses 0 .. 7 have the first eight, then the others. */
+    /** Which sets of tools, 0 .. 15, let a house do the deed: eight are tried at once, a house each. */
     private static int setsThatCan(String deed) {
         int sets = 0;
         for (int half = 0; half < 2; half++) {
@@ -315,7 +315,8 @@ final class TownBoundaryTest {
     }
 
     private static void kindsOverOneAnother() {
-        Check.sentence("DEED (0); PLAIN (1) is a DEED; TOOLED (2) is a DEED; EITHER (3) is TOOLED; CRAFT (4) is TOOLED");
+        Check.sentence("DEED (0); PLAIN (1) is a DEED; TOOLED (2) is a DEED; EITHER (3) is TOOLED; "
+                + "CRAFT (4) is TOOLED");
         MirrorHour x = Check.told("street 2;tools 0 2;plain 2 1 0 0;tooled 2 1 0 0;either 2 1 0 0;craft 2 1 0 0");
         int[][] due = {{3, 3, NOT, NOT, NOT}, {1, NOT, 1, NOT, NOT}, {1, NOT, 1, 1, NOT}, {3, NOT, 3, NOT, 3}};
         for (int deed = 0; deed < 4; deed++) {
@@ -380,7 +381,8 @@ final class TownBoundaryTest {
 
     private static void nextDayAtOnce() {
         Check.sentence("On the next DAY each HOUSE DOES what the one ACROSS DID, all at once");
-        MirrorHour x = Check.told("street 8;across 0 1;across 1 2;across 2 3;across 3 4;across 4 5;across 5 6;across 6 7",
+        MirrorHour x = Check.told("street 8;across 0 1;across 1 2;across 2 3;across 3 4;across 4 5;"
+                + "across 5 6;across 6 7",
                 "across 7 0;plain 0 0 0 0;plain 0 0 0 0;plain 0 0 0 0;plain 0 0 0 0;plain 0 0 0 0;plain 0 0 0 0",
                 "does 0 0;does 1 1;does 2 2;does 3 3;does 4 4;does 5 5");
         int[] does = {0, 1, 2, 3, 4, 5, NONE, NONE};
@@ -401,7 +403,8 @@ final class TownBoundaryTest {
 
     private static void nextDayIfItCan() {
         Check.sentence("if it CAN; else .. nothing");
-        MirrorHour x = Check.told("street 4;across 0 3;across 1 3;across 2 3;across 3 3;tools 0 15;tools 1 14;tools 3 15",
+        MirrorHour x = Check.told("street 4;across 0 3;across 1 3;across 2 3;across 3 3;tools 0 15;"
+                + "tools 1 14;tools 3 15",
                 "tooled 15 0 0 0;either 1 0 0 0;craft 15 2 0 0;plain 0 3 0 0;forbid 3");
         int[][] able = {{1, 0, 0, 1}, {1, 0, 0, 1}, {1, 0, 1, 1}, {0, 0, 0, 1}};
         for (int deed = 0; deed < 4; deed++) {
