@@ -1,10 +1,8 @@
-import java.io.ByteArrayOutputStream;
+import java.io.File;
 import java.io.IOException;
-import java.io.PrintStream;
 import java.lang.reflect.Method;
 import java.lang.reflect.Modifier;
-import java.net.URL;
-import java.net.URLClassLoader;
+import java.nio.charset.StandardCharsets;
 import java.nio.file.Files;
 import java.nio.file.Path;
 import java.util.ArrayList;
@@ -12,7 +10,6 @@ import java.util.List;
 import java.util.regex.Matcher;
 import java.util.regex.Pattern;
 import java.util.stream.Stream;
-import javax.tools.ToolProvider;
 
 /** README.md as it stands: its example answers as its comments say, and it names all calls and all tests. */
 final class ReadmeTest {
@@ -45,23 +42,24 @@ final class ReadmeTest {
     /** Compiles the example against the class, runs it, and answers what it showed. */
     private static String run(String example) throws Exception {
         Path folder = Files.createTempDirectory("readme");
-        Path source = Files.writeString(folder.resolve("Example.java"), example);
-        int compiled = ToolProvider.getSystemJavaCompiler().run(null, null, null, "-Xlint:all", "-Werror", "-cp",
-                System.getProperty("java.class.path"), "-d", folder.toString(), source.toString());
-        Check.due("the example compiles", compiled, 0);
-        ByteArrayOutputStream shown = new ByteArrayOutputStream();
-        PrintStream out = System.out;
-        try (URLClassLoader loader = new URLClassLoader(new URL[] {folder.toUri().toURL()})) {
-            System.setOut(new PrintStream(shown, true));
-            loader.loadClass("Example").getMethod("main", String[].class).invoke(null, (Object) new String[0]);
+        String classes = System.getProperty("java.class.path") + File.pathSeparator + folder;
+        try {
+            Path source = Files.writeString(folder.resolve("Example.java"), example);
+            said("javac", "-Xlint:all", "-Werror", "-cp", classes, "-d", folder.toString(), source.toString());
+            return said("java", "-cp", classes, "Example");
         } finally {
-            System.setOut(out);
             for (Path file : files(folder)) {
                 Files.delete(file);
             }
             Files.delete(folder);
         }
-        return shown.toString();
+    }
+
+    private static String said(String... command) throws IOException, InterruptedException {
+        Process process = new ProcessBuilder(command).redirectError(ProcessBuilder.Redirect.INHERIT).start();
+        String said = new String(process.getInputStream().readAllBytes(), StandardCharsets.UTF_8);
+        Check.due("the end of " + command[0] + " of the example", process.waitFor(), 0);
+        return said;
     }
 
     private static void names(String readme) throws IOException {
